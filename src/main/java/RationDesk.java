@@ -125,6 +125,7 @@ public final class RationDesk {
         if (!areFactors(a, b, c)) {
             return REFUSED;
         }
+        refresh();
         climb(a, b, c);
         topNumerator = peak.reducedOver();
         topDenominator = peak.reducedUnder();
@@ -145,6 +146,7 @@ public final class RationDesk {
         if (!areFactors(a, b, c) || !isLimit(d)) {
             return false;
         }
+        refresh();
         climb(a, b, c);
         return peak.isAtMost(d);
     }
@@ -188,7 +190,7 @@ public final class RationDesk {
     }
 
     private static int onPlane(int plane) {
-        return side(AT_MOST, plane) | side(AT_LEAST, plane);
+        return (1 << (AT_MOST + plane)) | (1 << (AT_LEAST + plane));
     }
 
     /** Whether two numbers, each 0 .. 2, are in one group of a split 0 .. 4. */
@@ -215,7 +217,6 @@ public final class RationDesk {
     }
 
     private void climb(int a, int b, int c) {
-        refresh();
         peak.start(a, b, c);
         for (int set = 0; set < SETS; set++) {
             if (isWorld(set)) {
@@ -465,9 +466,7 @@ public final class RationDesk {
             return (long) a * x[corner] + (long) b * y[corner] + (long) c * z[corner];
         }
 
-        /**
-         * Whether the corners on the needed sides are there, and reach each side that is sought.
-         */
+        /** Whether there are corners on all the needed sides that between them reach each side sought. */
         boolean havePoint(int needed, int sought) {
             boolean any = false;
             int missing = sought;
@@ -674,7 +673,7 @@ public final class RationDesk {
             }
             // The sum is as high as here on one face alone: the bound is reached if a solution lies on it.
             boolean reachedHere = (cellSides & sought) == sought;
-            int order = under == 0 ? 1 : compare(cellOver, cellUnder, over, under);
+            long order = under == 0 ? 1 : compare(cellOver, cellUnder, over, under);
             if (order > 0) {
                 over = cellOver;
                 under = cellUnder;
@@ -697,7 +696,7 @@ public final class RationDesk {
         }
 
         private void climbCorner(long sum, long divisor, int sides) {
-            int order = cellUnder == 0 ? 1 : compare(sum, divisor, cellOver, cellUnder);
+            long order = cellUnder == 0 ? 1 : compare(sum, divisor, cellOver, cellUnder);
             if (order > 0) {
                 cellOver = sum;
                 cellUnder = divisor;
@@ -707,9 +706,9 @@ public final class RationDesk {
             }
         }
 
-        /** The divisors are above 0, and all numbers small enough for the products. */
-        private static int compare(long over1, long under1, long over2, long under2) {
-            return Long.compare(over1 * under2, over2 * under1);
+        /** Above 0 if the first fraction is the greater; the numbers are far too small to overflow. */
+        private static long compare(long over1, long under1, long over2, long under2) {
+            return over1 * under2 - over2 * under1;
         }
 
         long reducedOver() {
