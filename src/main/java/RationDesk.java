@@ -468,18 +468,16 @@ public final class RationDesk {
 
         /** Whether there are corners on all the needed sides that between them reach each side sought. */
         boolean havePoint(int needed, int sought) {
-            boolean any = false;
             int missing = sought;
             for (int n = 0; n < count && n < CAPACITY; n++) {
                 if ((sides[n] & needed) == needed) {
-                    any = true;
                     missing &= ~sides[n];
                     if (missing == 0) {
                         return true;
                     }
                 }
             }
-            return any && missing == 0;
+            return false;
         }
 
         void rebuild(Atoms atoms) {

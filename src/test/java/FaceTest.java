@@ -20,12 +20,23 @@ public final class FaceTest {
         "public long RationDesk.top(int)",
         "public boolean RationDesk.bounded(int,int,int,int)",
     };
-    private static int wrong = 0;
+    /** Limits of LANGUAGE.md, rules 2 and 11. */
+    private static final int MOST_PARAMETERS = 7, MOST_CLASSES = 12, MOST_FIELDS = 20;
 
     private static void check(boolean right, String what) {
         if (!right) {
-            wrong++;
-            System.out.println("not as due: " + what);
+            Report.wrong("not as due: " + what);
+        }
+    }
+
+    private static void checkSizes(Class<?> type) {
+        int fields = 0;
+        for (Field f : type.getDeclaredFields()) {
+            fields += Modifier.isStatic(f.getModifiers()) ? 0 : 1;
+        }
+        check(fields <= MOST_FIELDS, "at most twenty fields: " + type);
+        for (Method m : type.getDeclaredMethods()) {
+            check(m.getParameterCount() <= MOST_PARAMETERS, "at most seven parameters: " + m);
         }
     }
 
@@ -70,13 +81,15 @@ public final class FaceTest {
         check(makers.length == 1 && makers[0].toString().equals("public RationDesk()"), "constructors");
 
         checkMembers(type, names);
+        checkSizes(type);
+        check(type.getDeclaredClasses().length < MOST_CLASSES, "at most twelve classes");
         for (Class<?> inner : type.getDeclaredClasses()) {
+            checkSizes(inner);
+            check(!Modifier.isPublic(inner.getModifiers()) && !Modifier.isProtected(inner.getModifiers()),
+                "private or package-visible class: " + inner);
             check(Modifier.isStatic(inner.getModifiers()), "static class: " + inner);
             checkMembers(inner, names);
         }
-        System.out.println(wrong == 0 ? "all answers are as due" : wrong + " answers are not as due");
-        if (wrong != 0) {
-            System.exit(1);
-        }
+        Report.finish();
     }
 }

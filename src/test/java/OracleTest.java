@@ -9,7 +9,11 @@ import java.util.Map;
  * pieces by order and sign, and eliminates the numbers one by one (Fourier and Motzkin).
  */
 public final class OracleTest {
-    private static int wrong = 0;
+    /** An object gets three calls a step, and at most 512 in all. */
+    private static final int STEPS = 170;
+    private static final int[] FAR = {
+        Integer.MIN_VALUE, Integer.MIN_VALUE + 1, -65536, -256, -100, -32, 32, 64, 100, 256, 65536, Integer.MAX_VALUE,
+    };
     private static long state = 1;
 
     private static int pick(int low, int high) {
@@ -333,7 +337,7 @@ public final class OracleTest {
     }
 
     private int most(int a, int b, int c) {
-        if (Math.abs(a) > 9 || Math.abs(b) > 9 || Math.abs(c) > 9) {
+        if (!areFactors(a, b, c)) {
             return -1;
         }
         Span s = spanOfAll(a, b, c);
@@ -349,7 +353,7 @@ public final class OracleTest {
     }
 
     private boolean bounded(int a, int b, int c, int d) {
-        if (Math.abs(a) > 9 || Math.abs(b) > 9 || Math.abs(c) > 9 || Math.abs(d) > 99) {
+        if (!areFactors(a, b, c) || !isIn(d, -99, 99)) {
             return false;
         }
         Span s = spanOfAll(a, b, c);
@@ -394,8 +398,8 @@ public final class OracleTest {
 
     private void due(String call, long got, long want) {
         story.append(call).append(" = ").append(want).append('\n');
-        if (got != want && wrong++ < 5) {
-            System.out.println(story + "^ answered " + got);
+        if (got != want) {
+            Report.wrong("a run that ends with a wrong answer\n" + story + "^ answered " + got);
         }
     }
 
@@ -407,8 +411,12 @@ public final class OracleTest {
         return v >= low && v <= high;
     }
 
+    private static boolean areFactors(int a, int b, int c) {
+        return isIn(a, -9, 9) && isIn(b, -9, 9) && isIn(c, -9, 9);
+    }
+
     private boolean linear(int k, int a, int b, int c, int d, boolean equal) {
-        if (!isIn(k, 0, 4) || !isIn(a, -9, 9) || !isIn(b, -9, 9) || !isIn(c, -9, 9) || !isIn(d, -99, 99)) {
+        if (!isIn(k, 0, 4) || !areFactors(a, b, c) || !isIn(d, -99, 99)) {
             return false;
         }
         atom[k] = new int[] {equal ? 1 : 0, a, b, c, d};
@@ -425,29 +433,43 @@ public final class OracleTest {
         return true;
     }
 
-    /** Now and then a number just beyond its range. */
-    private static int near(int low, int high) {
-        return pick(0, 60) == 0 ? (pick(0, 1) == 0 ? low - 1 : high + 1) : pick(low, high);
+    /** A number within the bounds, and now and then one just beyond its range or far away. */
+    private static int near(int low, int high, int below, int above) {
+        int odd = pick(0, 160);
+        if (odd < 2) {
+            return odd == 0 ? below : above;
+        }
+        return odd == 2 ? FAR[pick(0, FAR.length - 1)] : pick(low, high);
     }
 
     private static int factor(int size) {
-        return pick(0, 80) == 0 ? (pick(0, 1) == 0 ? -10 : 10) : pick(-size, size);
+        return near(-size, size, -10, 10);
+    }
+
+    private static int limit(int size) {
+        return near(-size, size, -100, 100);
     }
 
     private static int literal() {
-        return pick(0, 25) == 0 ? pick(-2, 11) : pick(0, 9);
+        return pick(0, 25) == 0 ? near(-2, 11, -1, 10) : pick(0, 9);
+    }
+
+    /** A limit for bounded: at or just beside the bound, where there is one, or any other. */
+    private int limitAt(int a, int b, int c) {
+        Span s = pick(0, 1) == 0 || !areFactors(a, b, c) ? null : spanOfAll(a, b, c);
+        return s == null ? limit(99) : (int) Math.floorDiv(s.over, s.under) + pick(-1, 1);
     }
 
     private void step(RationDesk x, int factors, int limits, int factShare) {
         int what = pick(0, 99);
         int a = factor(factors), b = factor(factors), c = factor(factors);
         if (what < 14) {
-            int k = near(0, 4);
+            int k = near(0, 4, -1, 5);
             if (pick(0, 99) < factShare) {
-                int i = near(0, 2), j = near(0, 2);
+                int i = near(0, 2, -1, 3), j = near(0, 2, -1, 3);
                 due("fact " + k + " " + i + " " + j, num(x.fact(k, i, j)), num(fact(k, i, j)));
             } else {
-                int d = pick(0, 60) == 0 ? 100 : pick(-limits, limits);
+                int d = limit(limits);
                 boolean e = pick(0, 2) == 0;
                 due("linear " + k + " " + a + " " + b + " " + c + " " + d + " " + e,
                     num(x.linear(k, a, b, c, d, e)), num(linear(k, a, b, c, d, e)));
@@ -464,7 +486,7 @@ public final class OracleTest {
         } else if (what < 64) {
             due("worlds", x.worlds(), worlds());
         } else if (what < 72) {
-            int s = pick(0, 9) == 0 ? pick(-40, 90) : pick(0, 31);
+            int s = pick(0, 9) == 0 ? near(-40, 90, -1, Integer.MIN_VALUE | pick(0, 31)) : pick(0, 31);
             due("world " + s, num(x.world(s)), num(isWorld(s & defined())));
         } else if (what < 80) {
             int l = literal();
@@ -472,7 +494,7 @@ public final class OracleTest {
         } else if (what < 90) {
             due("most " + a + " " + b + " " + c, x.most(a, b, c), most(a, b, c));
         } else if (what < 95) {
-            int d = pick(0, 30) == 0 ? 100 : pick(-99, 99);
+            int d = limitAt(a, b, c);
             due("bounded " + a + " " + b + " " + c + " " + d, num(x.bounded(a, b, c, d)), num(bounded(a, b, c, d)));
         }
         due("top 0", x.top(0), topOver);
@@ -480,7 +502,7 @@ public final class OracleTest {
     }
 
     public static void main(String[] args) {
-        int runs = args.length > 0 ? Integer.parseInt(args[0]) : 40;
+        int runs = args.length > 0 ? Integer.parseInt(args[0]) : 60;
         for (int run = 0; run < runs; run++) {
             state = 1000003L * (run + 1) + (args.length > 1 ? Long.parseLong(args[1]) : 0);
             OracleTest second = new OracleTest();
@@ -488,13 +510,10 @@ public final class OracleTest {
             int factors = run % 3 == 0 ? 1 : run % 3 == 1 ? 3 : 9;
             int limits = run % 4 == 0 ? 99 : run % 4 == 1 ? 2 : 30;
             int factShare = run % 5 * 20;
-            for (int n = 0; n < 250; n++) {
+            for (int n = 0; n < STEPS; n++) {
                 second.step(x, factors, limits, factShare);
             }
         }
-        System.out.println(wrong == 0 ? "all answers are as due" : wrong + " answers are not as due");
-        if (wrong != 0) {
-            System.exit(1);
-        }
+        Report.finish();
     }
 }
