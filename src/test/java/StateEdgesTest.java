@@ -100,6 +100,28 @@ public final class StateEdgesTest {
         Report.due("worlds where numbers may differ", x.worlds(), 8);
     }
 
+    private static void numbersMayAllDiffer() {
+        Report.part("terms: three rational numbers, all different or some of them equal");
+        RationDesk x = new RationDesk();
+        x.linear(0, 1, -1, 0, 0, true);
+        x.linear(1, 0, 1, -1, 0, true);
+        x.linear(2, 1, 0, -1, 0, true);
+        Report.due("worlds", x.worlds(), 5);
+        int[] possible = {1, 1, 1, 0, 1, 0, 0, 1};
+        for (int set = 0; set < 8; set++) {
+            Report.due("world " + set, x.world(set), possible[set] == 1);
+        }
+        x.clause(1, -1, -1);
+        x.clause(3, -1, -1);
+        x.clause(5, -1, -1);
+        Report.due("all different", x.worlds(), 1);
+        Report.due("all different", x.world(0), true);
+        Report.dueMost(x, 1, 1, 1, 1, 60, 1);
+        Report.dueMost(x, 1, -1, 0, 2, 40, 1);
+        Report.due("bounded", x.bounded(1, 1, 1, 60), true);
+        Report.due("bounded", x.bounded(1, 1, 1, 59), false);
+    }
+
     private static void fiveAtoms() {
         Report.part("terms: atoms 0 .. 4, undefined at first");
         RationDesk x = new RationDesk();
@@ -143,6 +165,27 @@ public final class StateEdgesTest {
         Report.due("below", x.world(2), true);
         Report.due("above", x.world(0), true);
         Report.due("the limit is not above", x.world(1), false);
+    }
+
+    /** A limit on one number leaves the others their whole range, at the limit too. */
+    private static void limitsLeaveTheOthersAlone() {
+        Report.part("terms: linear, <= d or = d, for one number");
+        for (int[] unit : UNIT) {
+            for (int sign = -1; sign <= 1; sign += 2) {
+                RationDesk x = new RationDesk();
+                linear(x, 0, unit, sign, 5, false);
+                x.clause(0, -1, -1);
+                for (int n = 0; n < 8; n++) {
+                    // Each sum of the three numbers with signs; the limit counts where its sign is the sum's.
+                    int a = 1 - (n & 1) * 2, b = 1 - (n & 2), c = 1 - (n & 4) / 2;
+                    boolean limited = a * unit[0] + b * unit[1] + c * unit[2] == sign;
+                    linear(x, 0, unit, sign, 5, false);
+                    Report.dueMost(x, a, b, c, 2, limited ? 45 : 60, 1);
+                    linear(x, 0, unit, sign, 5, true);
+                    Report.dueMost(x, a, b, c, 2, limited ? 45 : 35, 1);
+                }
+            }
+        }
     }
 
     private static void conditionsWithoutNumbers() {
@@ -278,6 +321,48 @@ public final class StateEdgesTest {
         Report.due("the clause is there still", x.clause(0, -1, -1), 2);
         Report.due("the same again", x.linear(0, 0, 0, 1, 7, true), true);
         Report.due("worlds", x.worlds(), 1);
+    }
+
+    /** Kinds of atoms: the linear ones a, b, c, d, equal or not; the facts i, j. */
+    private static final int[][] KINDS = {
+        {1, 0, 0, 5, 0}, {0, 1, 0, -7, 1}, {0, 0, -1, 3, 0}, {1, 1, 1, 10, 0}, {3, -2, 5, 17, 1}, {9, 8, -9, 60, 0},
+        {1, -1, 0, 0, 1}, {0, 0, 0, 0, 0}, {0, 0, 0, -1, 1}, {1, 0, 0, -21, 0}, {1, 1, 1, -60, 0}, {0, 1}, {2, 2},
+    };
+
+    private static boolean define(RationDesk x, int k, int[] kind) {
+        if (kind.length == 2) {
+            return x.fact(k, kind[0], kind[1]);
+        }
+        return x.linear(k, kind[0], kind[1], kind[2], kind[3], kind[4] == 1);
+    }
+
+    /** Two atoms that were others before, asked about in between, are as if they had been these from the first. */
+    private static void anewIsAsIfFirst() {
+        Report.part("promises 2 and 3: also anew, and nothing is left of what was");
+        for (int[] before : KINDS) {
+            for (int[] first : KINDS) {
+                for (int[] second : KINDS) {
+                    RationDesk fresh = new RationDesk();
+                    RationDesk anew = new RationDesk();
+                    define(anew, 1, before);
+                    define(anew, 3, before);
+                    anew.worlds();
+                    RationDesk[] both = {fresh, anew};
+                    for (RationDesk x : both) {
+                        Report.due("definition", define(x, 1, first), true);
+                        Report.due("definition", define(x, 3, second), true);
+                        x.clause(2, 6, -1);
+                        x.push();
+                        x.clause(2, -1, -1);
+                    }
+                    String due = Probe.look(fresh);
+                    String got = Probe.look(anew);
+                    if (!got.equals(due)) {
+                        Report.wrong("anew " + got + "\n    due is " + due);
+                    }
+                }
+            }
+        }
     }
 
     private static void linearRefusesAtoms() {
@@ -592,9 +677,11 @@ public final class StateEdgesTest {
         numbersEndAtTwenty();
         numbersNeedNotBeWhole();
         oneValueForEachNumber();
+        numbersMayAllDiffer();
         fiveAtoms();
         atMostIncludesItsLimit();
         equalIsItsLimitAlone();
+        limitsLeaveTheOthersAlone();
         conditionsWithoutNumbers();
         literalsOfEachAtom();
         oneLiteralHolding();
@@ -605,6 +692,7 @@ public final class StateEdgesTest {
         objectsAreApart();
         linearTakesItsEdges();
         linearAnew();
+        anewIsAsIfFirst();
         linearRefusesAtoms();
         linearRefusesNumbers();
         factTakesItsEdges();
